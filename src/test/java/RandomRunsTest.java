@@ -4,7 +4,10 @@ import java.util.Random;
 /** Random runs of calls, the same ones each time, on Resolverium and on Model side by side. */
 public final class RandomRunsTest {
     private static final int RUNS = 1500;
-    private static final int CALLS = 512;
+    /** Runs with as much in the world as there may be; few, as the model is slow with them. */
+    private static final int FULL_RUNS = 30;
+    private static final int FULL_TELLING_CALLS = 300;
+    private static final int FULL_CALLS = 350;
     private static final String[] NAMES = {"publish", "compare", "yank", "setPlatforms", "bring", "range",
         "join", "has", "need", "demand", "advise", "mending", "replace", "setPlatform", "solve", "chosen",
         "chosenAnew", "features", "solutions", "why", "against", "lock", "unlock", "install", "spoil",
@@ -19,6 +22,11 @@ public final class RandomRunsTest {
     private static final int[] ASKING = {1, 2, 5, 3, 3, 1, 1, 3, 4, 3, 2, 3, 4, 3, 9, 6,
         3, 6, 4, 6, 12, 7, 4, 7, 5, 5, 5};
 
+    private static final int[] FULL_TELLING = {40, 0, 0, 0, 12, 14, 3, 0, 140, 7, 1, 0, 1, 0, 0, 0,
+        0, 0, 0, 0, 0, 0, 0, 0, 0, 0, 0};
+    private static final int[] FULL_ASKING = {1, 1, 1, 1, 0, 0, 0, 1, 0, 0, 0, 2, 0, 0, 6, 14,
+        4, 8, 4, 0, 24, 4, 3, 5, 3, 4, 5};
+
     private final Random random;
     private final Resolverium real = new Resolverium();
     private final Model model = new Model();
@@ -27,43 +35,53 @@ public final class RandomRunsTest {
     private final int digits;
     /** Most runs are gentle: wide ranges and few flaws, so that there are many solutions. */
     private final boolean gentle;
+    private final boolean full;
 
-    private RandomRunsTest(long seed) {
+    private RandomRunsTest(long seed, boolean isFull) {
         random = new Random(seed);
-        wrongShare = random.nextInt(3) == 0 ? 12 : 150;
-        packages = 2 + random.nextInt(5);
+        full = isFull;
+        wrongShare = !full && random.nextInt(3) == 0 ? 12 : 150;
+        packages = full ? 6 : 2 + random.nextInt(5);
         digits = 2 + random.nextInt(3);
-        gentle = random.nextInt(4) != 0;
+        gentle = full || random.nextInt(4) != 0;
     }
 
     public static void main(String[] args) {
-        long[] answers = new long[NAMES.length];
-        for (int run = 0; run < RUNS; run++) {
-            String wrong = new RandomRunsTest(run).firstWrongCall(answers);
+        for (int run = 0; run < RUNS + FULL_RUNS; run++) {
+            String wrong = new RandomRunsTest(run, run >= RUNS).firstWrongCall();
             if (wrong != null) {
                 System.out.println("random run " + run + ": " + wrong);
                 System.exit(1);
             }
         }
-        System.out.println(RUNS + " random runs answered as the model does");
+        System.out.println(RUNS + FULL_RUNS + " random runs answered as the model does");
     }
 
-    private String firstWrongCall(long[] answers) {
-        int telling = 40 + random.nextInt(60);
-        for (int call = 0; call < CALLS / 2; call++) {
-            int method = gentle ? pick(call < telling ? GENTLE_TELLING : GENTLE_ASKING)
-                    : pick(call < telling ? TELLING : ASKING);
+    private String firstWrongCall() {
+        int telling = full ? FULL_TELLING_CALLS : 40 + random.nextInt(60);
+        int calls = full ? FULL_CALLS : Calls.MOST / 2;
+        for (int call = 0; call < calls; call++) {
+            int method = pick(weights(call < telling));
             int[] a = call == 0 && gentle ? new int[] {Resolverium.ALL, 0, 0, 0, 0} : arguments(method);
             method = call == 0 && gentle ? 5 : method;
             String due = onModel(method, a);
-            String got = onReal(method, a);
-            answers[method]++;
+            String got = Calls.answer(real, NAMES[method], a);
             if (!got.equals(due)) {
                 return "call " + call + ", " + NAMES[method] + Arrays.toString(a) + " answered " + got
                         + ", due is " + due;
             }
         }
         return null;
+    }
+
+    private int[] weights(boolean telling) {
+        if (full) {
+            return telling ? FULL_TELLING : FULL_ASKING;
+        }
+        if (gentle) {
+            return telling ? GENTLE_TELLING : GENTLE_ASKING;
+        }
+        return telling ? TELLING : ASKING;
     }
 
     private int pick(int[] weights) {
@@ -154,51 +172,11 @@ public final class RandomRunsTest {
         }
     }
 
-    private String onReal(int method, int[] a) {
-        try {
-            return String.valueOf(realAnswer(method, a));
-        } catch (RuntimeException e) {
-            return e.getClass().getSimpleName();
-        }
-    }
-
     private String onModel(int method, int[] a) {
         try {
             return String.valueOf(modelAnswer(method, a));
         } catch (RuntimeException e) {
             return e.getClass().getSimpleName();
-        }
-    }
-
-    private int realAnswer(int method, int[] a) {
-        switch (NAMES[method]) {
-            case "publish": return real.publish(a[0], a[1], a[2], a[3], a[4], a[5]);
-            case "compare": return real.compare(a[0], a[1]);
-            case "yank": return real.yank(a[0]) ? 1 : 0;
-            case "setPlatforms": return real.setPlatforms(a[0], a[1]);
-            case "bring": return real.bring(a[0], a[1], a[2]) ? 1 : 0;
-            case "range": return real.range(a[0], a[1], a[2], a[3], a[4]);
-            case "join": return real.join(a[0], a[1], a[2]);
-            case "has": return real.has(a[0], a[1]) ? 1 : 0;
-            case "need": return real.need(a[0], a[1], a[2], a[3], a[4], a[5], a[6]);
-            case "demand": return real.demand(a[0], a[1], a[2], a[3]);
-            case "advise": return real.advise(a[0], a[1]);
-            case "mending": return real.mending(a[0]);
-            case "replace": return real.replace(a[0], a[1]);
-            case "setPlatform": return real.setPlatform(a[0]);
-            case "solve": return real.solve(a[0], a[1]);
-            case "chosen": return real.chosen(a[0]);
-            case "chosenAnew": return real.chosenAnew(a[0]);
-            case "features": return real.features(a[0]);
-            case "solutions": return real.solutions();
-            case "why": return real.why();
-            case "against": return real.against(a[0]);
-            case "lock": return real.lock();
-            case "unlock": return real.unlock(a[0]);
-            case "install": return real.install(a[0]);
-            case "spoil": return real.spoil(a[0]);
-            case "onDisk": return real.onDisk(a[0]);
-            default: return real.pending();
         }
     }
 
