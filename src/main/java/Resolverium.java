@@ -1017,7 +1017,9 @@ public final class Resolverium {
             for (int round = 0; grew && round <= PACKAGES * FEATURES; round++) {
                 grew = false;
                 for (int at = 0; at < PACKAGES; at++) {
-                    grew |= turnOnBy(at);
+                    if (turnOnBy(at)) {
+                        grew = true;
+                    }
                 }
             }
         }
@@ -1031,8 +1033,9 @@ public final class Resolverium {
             int end = world.needs.end(version);
             for (int need = world.needs.first(version); need < end; need++) {
                 int asked = world.needs.asked.get(need);
-                if (asked != 0 && world.counts(need, on.get(at))) {
-                    grew |= on.merge(world.targetOfNeed(need), asked);
+                if (asked != 0 && world.counts(need, on.get(at))
+                        && on.merge(world.targetOfNeed(need), asked)) {
+                    grew = true;
                 }
             }
             return grew;
